@@ -659,7 +659,7 @@ public final class StairTolls {
         }
 
         boolean isOf(int owners, int step) {
-            return hasStep(step) && ((owners >> owner[step]) & 1) == 1;
+            return step >= 0 && step < steps && ((owners >> owner[step]) & 1) == 1;
         }
 
         boolean ownAny(int owners) {

@@ -59,6 +59,9 @@ public final class StairsTest {
         text("step 0 0  ", -1000110, 1);
         text("stepp 0 0;", -1000100, 1);
         text("ste 0 0;", -1000100, 1);
+        text("stepa 0 0;", -1000100, 1);
+        text("stepz 0 0;", -1000100, 1);
+        text("step 0 0z;", -1000108, 1);
         text("Step 0 0;", -1000100, 1);
         text(";", -1000100, 1);
         text("step 0\t0;", -1000106, 1);
@@ -132,6 +135,9 @@ public final class StairsTest {
         c.due("crack -1", x.crack(1, -1), BAD);
         c.due("crack of none", x.crack(2, 1), BAD);
         c.due("refused ones are no acts", x.count(4), 5);
+        c.due("asked the same: an act as well", x.price(0, 0), 0);
+        c.due("mended the whole one: an act as well", x.crack(1, 0), 0);
+        c.due("seven acts", x.count(4), 7);
     }
 
     private static void promise12() {
@@ -162,6 +168,22 @@ public final class StairsTest {
         c.due("the two oldest are forgotten", x.step(0, 1), 2);
         c.due("step 1 as it was", x.step(1, 1), 6);
         c.due("none", x.undo(), STATE);
+        forgottenActsOfAllKinds();
+    }
+
+    private static void forgottenActsOfAllKinds() {
+        StairTolls x = Check.with(TWO);
+        for (int i = 0; i < 30; i++) {
+            int answer = i % 3 == 0 ? x.price(0, 5 + i / 3) : i % 3 == 1 ? x.sell(0, 1 + i / 3 % 4) : x.crack(0, 1 - i / 3 % 2);
+            c.holds("act " + i, answer >= 0);
+        }
+        for (int left = 23; left >= 0; left--) {
+            c.due("left", x.undo(), left);
+        }
+        // acts 0 to 5 are forgotten: prices 5, 6, owners 1, 2, cracked, mended
+        c.due("asks", x.step(0, 1), 6);
+        c.due("owner", x.step(0, 0), 2);
+        c.due("whole", x.step(0, 2), 0);
     }
 
     private static void promise13() {
