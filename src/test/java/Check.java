@@ -1,8 +1,15 @@
+import java.io.IOException;
+import java.nio.file.Files;
+import java.nio.file.Path;
+
 /** What every test of the project needs: compare an answer, feed a text, tell how it ended. */
 final class Check {
     private final String name;
+    private String document = null;
+    private String sentence = "";
     private int passed = 0;
     private int failed = 0;
+    private int passedOrFailedBefore = 0;
 
     Check(String name) {
         this.name = name;
@@ -13,12 +20,45 @@ final class Check {
             passed++;
         } else {
             failed++;
-            System.out.println(name + ": " + call + " answered " + got + ", due is " + want);
+            System.out.println(name + ": " + call + " answered " + got + ", due is " + want + sentence);
         }
+    }
+
+    void same(String what, String got, String want) {
+        if (!got.equals(want)) {
+            System.out.println(name + ": " + what + ":\n  got " + got + "\n  due " + want + sentence);
+        }
+        holds(what, got.equals(want));
     }
 
     void holds(String what, boolean is) {
         due(what, is ? 1 : 0, 1);
+    }
+
+    /** What follows, up to the next sentence, tests this one; the document must have it, word for word. */
+    void says(String words) {
+        endSentence();
+        sentence = "";
+        holds("the document says: " + words, document().contains(words));
+        sentence = "\n  the document says: " + words;
+        passedOrFailedBefore = passed + failed;
+    }
+
+    private void endSentence() {
+        if (!sentence.isEmpty()) {
+            holds("tests of the sentence", passed + failed > passedOrFailedBefore);
+        }
+    }
+
+    private String document() {
+        if (document == null) {
+            try {
+                document = Files.readString(Path.of("../shared/DOC.md")).replaceAll("\\s+", " ");
+            } catch (IOException e) {
+                document = "";
+            }
+        }
+        return document;
     }
 
     static void feed(StairTolls x, String text) {
@@ -39,7 +79,16 @@ final class Check {
         return x;
     }
 
+    /** A ROW of a LANE that holds these ITEMS. */
+    static void fill(StairTolls x, int row, int lane, int... items) {
+        x.row(row, lane, items.length);
+        for (int i = 0; i < items.length; i++) {
+            x.set(row, i, items[i]);
+        }
+    }
+
     void end() {
+        endSentence();
         System.out.println(name + ": " + passed + " passed, " + failed + " failed");
         if (failed > 0) {
             System.exit(1);
