@@ -18,10 +18,12 @@ public final class AskedEdgesTest {
         nearestKind();
         askedAnew();
         traceOfAsk();
+        numbersInTheTrace();
         traceLimits();
         counts();
         countsAtMost();
         newObject();
+        usedFor512Calls();
         c.end();
     }
 
@@ -208,6 +210,25 @@ public final class AskedEdgesTest {
         c.due("only asks leave numbers", x.trace(0), 21);
     }
 
+    private static void numbersInTheTrace() {
+        c.says("each of which leaves its number in THE TRACE as it begins (the first 16)");
+        // of all asks that of a DEAR one's SIZE is the longest, so the room for 16 is never filled
+        for (int s = 0; s < 5; s++) {
+            for (int what = 0; what < 2; what++) {
+                StairTolls x = all();
+                x.ask(s, what);
+                int first = x.trace(0);
+                c.holds("begins with one of its ask", first / 10 == what + 1 && first % 10 > 0);
+                int last = NONE;
+                for (int i = 0; i < 16 && x.trace(i) != NONE; i++) {
+                    last = x.trace(i);
+                }
+                c.holds("ends with one that is lent", last == 10 || last == 20);
+                c.due("six at most", x.trace(6), NONE);
+            }
+        }
+    }
+
     private static void traceLimits() {
         c.says("Number i of THE TRACE; NONE.");
         StairTolls x = all();
@@ -285,5 +306,21 @@ public final class AskedEdgesTest {
         StairTolls other = new StairTolls();
         c.due("another object has none", other.count(1), 0);
         c.due("this one has", full.count(1), 5);
+    }
+
+    private static void usedFor512Calls() {
+        c.says("An object is used for at most 512 calls after it has been made");
+        StairTolls x = new StairTolls();
+        Check.feed(x, "step 0 1;walker 1 0 9 2;");
+        x.stair();
+        int calls = 4;
+        while (calls < 508) {
+            c.due("call " + calls, x.price(0, 1 + (calls + 1) % 9), 1 + (calls == 4 ? 0 : calls % 9));
+            calls++;
+        }
+        c.due("call 509", x.takes(0), 2 * (1 + 508 % 9));
+        c.due("call 510", x.undo(), 23);
+        c.due("call 511", x.row(7, 2, 40), 40);
+        c.due("call 512", x.step(0, 1), 1 + 507 % 9);
     }
 }

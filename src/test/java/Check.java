@@ -35,6 +35,18 @@ final class Check {
         due(what, is ? 1 : 0, 1);
     }
 
+    /** THE WAY of a walker: whether he goes, what it costs, all that he treads and no more. */
+    void way(StairTolls x, int walker, int goes, int costs, int... steps) {
+        due("goes", x.way(walker, -3), goes);
+        due("costs", x.way(walker, -2), costs);
+        due("treads", x.way(walker, -1), steps.length);
+        for (int k = 0; k < steps.length; k++) {
+            due("step " + k, x.way(walker, k), steps[k]);
+        }
+        due("not so many", x.way(walker, steps.length), StairTolls.NONE);
+        due("not so many", x.way(walker, Integer.MAX_VALUE), StairTolls.NONE);
+    }
+
     /** What follows, up to the next sentence, tests this one; the document must have it, word for word. */
     void says(String words) {
         endSentence();

@@ -82,11 +82,30 @@ public final class FaceTest {
 
     private static void language() throws Exception {
         String source = Files.readString(Path.of("src/main/java/StairTolls.java"));
+        c.holds("signs 10 and 32 to 126 alone", source.matches("[\\n -~]*"));
+        c.holds("one file", Files.list(Path.of("src/main/java")).count() == 1);
+        shortMethods(source);
         String code = source.replaceAll("(?s)/\\*.*?\\*/", " ").replaceAll("//[^\n]*", " ");
         for (String word : new String[] {"throw", "throws", "try", "catch", "synchronized", "assert", "import",
-            "package", "Random", "System\\.(?!arraycopy)\\w+", "\\w+Exact", "->", "::", "instanceof", "double", "float"}) {
+            "package", "Random", "System\\.(?!arraycopy)\\w+", "Math\\.(?!min\\b|max\\b)\\w+", "protected", "\\w+Exact", "->", "::", "instanceof", "double", "float"}) {
             Matcher m = Pattern.compile(word.matches("\\w+") ? "\\b" + word + "\\b" : word).matcher(code);
             c.holds("no " + word, !m.find());
+        }
+    }
+
+    /** From a line that opens a method to the one that closes it: some sixty lines at most. */
+    private static void shortMethods(String source) {
+        String opened = "";
+        int since = 0;
+        String[] lines = source.split("\n");
+        for (int i = 0; i < lines.length; i++) {
+            if (lines[i].matches("( {4}| {8})\\w.*\\) \\{") || lines[i].matches("( {4}| {8})(private|public).*\\($")) {
+                opened = lines[i];
+                since = i;
+            }
+            if (lines[i].matches("( {4}| {8})\\}") && !opened.isEmpty()) {
+                c.holds(opened + " is short", i - since < 60);
+            }
         }
     }
 

@@ -7,6 +7,7 @@ public final class ForetoldEdgesTest {
     public static void main(String[] args) {
         nothingChanges();
         setsOfOwners();
+        setsAreBits();
         oneAsking();
         othersAsTheyAre();
         leastOfSeveral();
@@ -30,6 +31,7 @@ public final class ForetoldEdgesTest {
         askedFits();
         askedIsTheWay();
         askedNoMoreThanWorth();
+        askedLimits();
         askedRefused();
         askedItems();
         deals();
@@ -100,6 +102,19 @@ public final class ForetoldEdgesTest {
         }
     }
 
+    private static void setsAreBits() {
+        c.says("Sets are bits.");
+        // all ask 15 of 20: who asks anew can ask 5 more than now
+        StairTolls x = Check.with("step 0 1;step 1 2;step 2 3;step 3 4;step 4 5;walker 1 0 20 1;");
+        for (int owner = 0; owner < 5; owner++) {
+            c.due("owner " + owner + " alone", x.best(1 << owner, 0), 6 + owner);
+        }
+        // two ask the same: half of 5 and of what both ask now
+        c.due("owners 0 and 1", x.best(3, 0), 4);
+        c.due("owners 0 and 2", x.best(5, 0), 4);
+        c.due("owners 3 and 4", x.best(24, 0), 7);
+    }
+
     private static void oneAsking() {
         c.says("one ASKING (0 to 20) for all their STEPS by which they TAKE most together");
         int[][] due = {{0, 0}, {1, 1}, {19, 19}, {20, 20}, {21, 20}, {200, 20}};
@@ -151,7 +166,7 @@ public final class ForetoldEdgesTest {
     }
 
     private static void bestOfNone() {
-        c.says("NONE: they have no STEPS. BAD; STATE: no STAIR (ahead of BAD).");
+        c.says("BEST (what = 0), GAINS (1) of OWNERS; NONE: they have no STEPS. BAD; STATE: no STAIR (ahead of BAD).");
         StairTolls x = Check.with("step 1 5;walker 1 0 9 1;");
         c.due("owner 0", x.best(1, 0), NONE);
         c.due("all but 1", x.best(29, 1), NONE);
@@ -213,6 +228,11 @@ public final class ForetoldEdgesTest {
         c.due("4 and 6 become 5", Check.with("step 0 4;step 0 6;walker 1 0 10 1;").turnsOf(-1), 2);
         c.due("6 and 4 become 5", Check.with("step 0 6;step 0 4;walker 1 0 10 1;").turnsOf(-1), 2);
         c.due("5 and 6", Check.with("step 0 5;step 0 6;walker 1 0 10 1;").turnsOf(-1), 2);
+        c.due("0 and 0 stay", Check.with("step 0 0;step 0 0;").turnsOf(-1), 1);
+        c.due("20 and 20 stay", Check.with("step 0 20;step 0 20;walker 1 0 40 1;").turnsOf(-1), 1);
+        c.due("0 and 3 become 0", Check.with("step 0 0;step 0 3;").turnsOf(-1), 2);
+        c.due("3 and 0 become 0", Check.with("step 0 3;step 0 0;").turnsOf(-1), 2);
+        c.due("20 and 3 become 20", Check.with("step 0 20;step 0 3;walker 1 0 40 1;").turnsOf(-1), 2);
         StairTolls x = Check.with("step 0 5;step 0 3;walker 2 0 5 1;");
         c.due("both ask 5 then", x.turnsOf(-1), 2);
         x.price(1, 5);
@@ -475,14 +495,32 @@ public final class ForetoldEdgesTest {
         fits(x, 1, 1, 0, 0, 0);
     }
 
-    private static void askedRefused() {
-        c.says("BAD: WALKER, ROW, n, k, sum, what; NULL; PLACE");
+    /** Eighteen steps, all on the way of reach 1, and a row that tells them. */
+    private static StairTolls eighteen() {
         StairTolls x = Check.with("step 0 1;".repeat(18) + "walker 1 0 200 1;");
         x.row(0, 1, 40);
         for (int i = 0; i < 18; i++) {
             x.set(0, i, i);
         }
+        return x;
+    }
+
+    private static void askedLimits() {
+        c.says("ASKED: n STEPS (1 to 18), rising, ITEMS of a ROW from its beginning on, the k-th not known, a sum"
+                + " (0 to 9999): how many (what = 0), the least (1; NONE).");
+        StairTolls x = eighteen();
+        c.due("n 18, k 0", x.asked(0, 0, 18, 0, 18, 1), 1);
         c.due("n 18, k 17", x.asked(0, 0, 18, 17, 18, 1), 1);
+        c.due("n 1, k 0", x.asked(0, 0, 1, 0, 18, 0), 0);
+        c.due("sum 0", x.asked(0, 0, 18, 0, 0, 0), 0);
+        c.due("sum 0, the least", x.asked(0, 0, 18, 0, 0, 1), NONE);
+        c.due("sum 9999", x.asked(0, 0, 18, 0, 9999, 0), 0);
+        c.due("sum 9999, the least", x.asked(0, 0, 18, 0, 9999, 1), NONE);
+    }
+
+    private static void askedRefused() {
+        c.says("BAD: WALKER, ROW, n, k, sum, what; NULL; PLACE");
+        StairTolls x = eighteen();
         for (int wrong : new int[] {-1, 1, MIN, MAX}) {
             c.due("walker " + wrong, x.asked(wrong, 0, 18, 0, 18, 0), BAD);
         }
@@ -495,14 +533,13 @@ public final class ForetoldEdgesTest {
         for (int wrong : new int[] {-1, 18, MIN, MAX}) {
             c.due("k " + wrong, x.asked(0, 0, 18, wrong, 18, 0), BAD);
         }
+        c.due("k 1 of 1", x.asked(0, 0, 1, 1, 18, 0), BAD);
         for (int wrong : new int[] {-1, 10000, MIN, MAX}) {
             c.due("sum " + wrong, x.asked(0, 0, 18, 0, wrong, 0), BAD);
         }
         for (int wrong : new int[] {-1, 2, MIN, MAX}) {
             c.due("what " + wrong, x.asked(0, 0, 18, 0, 18, wrong), BAD);
         }
-        c.due("sum 0", x.asked(0, 0, 18, 0, 0, 0), 0);
-        c.due("sum 9999", x.asked(0, 0, 18, 0, 9999, 0), 0);
         c.due("missing", x.asked(0, 1, 18, 0, 18, 0), NULL);
         x.row(1, 0, 17);
         c.due("17 items", x.asked(0, 1, 18, 0, 18, 0), PLACE);

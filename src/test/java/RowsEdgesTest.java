@@ -267,7 +267,7 @@ public final class RowsEdgesTest {
     }
 
     private static void dropped() {
-        c.says("A ROW is missing from now on: how many ITEMS it had.");
+        c.says("A ROW is missing from now on: how many ITEMS it had. BAD; NULL.");
         StairTolls x = Check.with("step 0 0;walker 1 0 0 1;");
         for (int n : new int[] {0, 1, 39, 40}) {
             x.row(3, 1, n);
@@ -284,6 +284,9 @@ public final class RowsEdgesTest {
         c.due("copy from it", x.copy(3, 0, 2, 0, 1), NULL);
         c.due("copy to it", x.copy(2, 0, 3, 0, 1), NULL);
         c.due("its neighbours are there", x.count(0), 2);
+        for (int wrong : new int[] {-1, 8, MIN, MAX}) {
+            c.due("drop(" + wrong + ")", x.drop(wrong), BAD);
+        }
     }
 
     private static void statusOfLatest() {

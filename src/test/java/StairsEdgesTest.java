@@ -29,16 +29,6 @@ public final class StairsEdgesTest {
         c.end();
     }
 
-    private static void way(StairTolls x, int walker, int goes, int costs, int... steps) {
-        c.due("goes", x.way(walker, -3), goes);
-        c.due("costs", x.way(walker, -2), costs);
-        c.due("treads", x.way(walker, -1), steps.length);
-        for (int k = 0; k < steps.length; k++) {
-            c.due("step " + k, x.way(walker, k), steps[k]);
-        }
-        c.due("not so many", x.way(walker, steps.length), NONE);
-    }
-
     private static StairTolls broken(String text, int... steps) {
         StairTolls x = Check.with(text);
         for (int s : steps) {
@@ -50,13 +40,13 @@ public final class StairsEdgesTest {
     private static void leapsToReach() {
         c.says("from below STEP 0 up by leaps of 1 to REACH STEPS");
         String six = "step 0 1;".repeat(6);
-        way(Check.with(six + "walker 1 0 99 1;"), 0, 1, 6, 0, 1, 2, 3, 4, 5);
-        way(Check.with(six + "walker 2 0 99 1;"), 0, 1, 3, 0, 2, 4);
-        way(Check.with(six + "walker 3 0 99 1;"), 0, 1, 2, 0, 3);
+        c.way(Check.with(six + "walker 1 0 99 1;"), 0, 1, 6, 0, 1, 2, 3, 4, 5);
+        c.way(Check.with(six + "walker 2 0 99 1;"), 0, 1, 3, 0, 2, 4);
+        c.way(Check.with(six + "walker 3 0 99 1;"), 0, 1, 2, 0, 3);
         // leaps need not be as long as they can be
-        way(Check.with("step 0 0;step 0 9;step 0 0;step 0 9;step 0 0;walker 3 0 99 1;"), 0, 1, 0, 2);
-        way(Check.with("step 0 9;step 0 0;step 0 0;step 0 9;step 0 9;walker 3 0 99 1;"), 0, 1, 0, 2);
-        way(Check.with("step 0 9;step 0 0;step 0 9;step 0 0;step 0 9;step 0 9;walker 3 0 99 1;"), 0, 1, 0, 1, 3);
+        c.way(Check.with("step 0 0;step 0 9;step 0 0;step 0 9;step 0 0;walker 3 0 99 1;"), 0, 1, 0, 2);
+        c.way(Check.with("step 0 9;step 0 0;step 0 0;step 0 9;step 0 9;walker 3 0 99 1;"), 0, 1, 0, 2);
+        c.way(Check.with("step 0 9;step 0 0;step 0 9;step 0 0;step 0 9;step 0 9;walker 3 0 99 1;"), 0, 1, 0, 1, 3);
     }
 
     private static void notOnBroken() {
@@ -75,29 +65,29 @@ public final class StairsEdgesTest {
         for (int s = 0; s < 3; s++) {
             c.due("reach 3 over three", broken(five, s, s + 1, s + 2).way(2, -2), NONE);
         }
-        way(broken(five, 2), 2, 1, 2, 0, 3);
-        way(broken(five, 1, 2), 2, 1, 2, 0, 3);
-        way(broken(five, 0, 3), 1, 1, 3, 1, 2, 4);
+        c.way(broken(five, 2), 2, 1, 2, 0, 3);
+        c.way(broken(five, 1, 2), 2, 1, 2, 0, 3);
+        c.way(broken(five, 0, 3), 1, 1, 3, 1, 2, 4);
         // a broken one that asks nothing is not trodden either
-        way(broken("step 0 9;step 0 0;walker 2 0 99 1;", 1), 0, 1, 9, 0);
+        c.way(broken("step 0 9;step 0 0;walker 2 0 99 1;", 1), 0, 1, 9, 0);
     }
 
     private static void aboveTheLast() {
         c.says("till he is above the last one");
-        way(Check.with("step 0 5;walker 1 0 99 1;"), 0, 1, 5, 0);
-        way(Check.with("step 0 5;walker 2 0 99 1;"), 0, 1, 0);
-        way(Check.with("step 0 5;walker 3 0 99 1;"), 0, 1, 0);
-        way(Check.with("step 0 5;step 0 6;walker 2 0 99 1;"), 0, 1, 5, 0);
-        way(Check.with("step 0 5;step 0 6;walker 3 0 99 1;"), 0, 1, 0);
-        way(Check.with("step 0 5;step 0 6;step 0 4;walker 3 0 99 1;"), 0, 1, 4, 2);
-        way(broken("step 0 5;step 0 6;walker 3 0 0 1;", 0, 1), 0, 1, 0);
+        c.way(Check.with("step 0 5;walker 1 0 99 1;"), 0, 1, 5, 0);
+        c.way(Check.with("step 0 5;walker 2 0 99 1;"), 0, 1, 0);
+        c.way(Check.with("step 0 5;walker 3 0 99 1;"), 0, 1, 0);
+        c.way(Check.with("step 0 5;step 0 6;walker 2 0 99 1;"), 0, 1, 5, 0);
+        c.way(Check.with("step 0 5;step 0 6;walker 3 0 99 1;"), 0, 1, 0);
+        c.way(Check.with("step 0 5;step 0 6;step 0 4;walker 3 0 99 1;"), 0, 1, 4, 2);
+        c.way(broken("step 0 5;step 0 6;walker 3 0 0 1;", 0, 1), 0, 1, 0);
     }
 
     private static void costs() {
         c.says("It COSTS what all STEPS that he treads ASK, added, times (1 and LOAD).");
-        way(Check.with("step 0 3;step 1 4;walker 1 0 99 1;walker 1 1 99 1;walker 1 2 99 1;"), 0, 1, 7, 0, 1);
-        way(Check.with("step 0 3;step 1 4;walker 1 0 99 1;walker 1 1 99 1;walker 1 2 99 1;"), 1, 1, 14, 0, 1);
-        way(Check.with("step 0 3;step 1 4;walker 1 0 99 1;walker 1 1 99 1;walker 1 2 99 1;"), 2, 1, 21, 0, 1);
+        c.way(Check.with("step 0 3;step 1 4;walker 1 0 99 1;walker 1 1 99 1;walker 1 2 99 1;"), 0, 1, 7, 0, 1);
+        c.way(Check.with("step 0 3;step 1 4;walker 1 0 99 1;walker 1 1 99 1;walker 1 2 99 1;"), 1, 1, 14, 0, 1);
+        c.way(Check.with("step 0 3;step 1 4;walker 1 0 99 1;walker 1 1 99 1;walker 1 2 99 1;"), 2, 1, 21, 0, 1);
         StairTolls x = Check.with(FULL + "walker 1 2 200 20;walker 1 0 200 1;");
         c.due("the dearest of all", x.way(0, -2), 1080);
         c.due("without a load", x.way(1, -2), 360);
@@ -108,30 +98,30 @@ public final class StairsEdgesTest {
     private static void costsLeast() {
         c.says("THE WAY: that which COSTS least");
         // two free ones against one that asks 1
-        way(Check.with("step 0 0;step 0 1;step 0 0;walker 2 0 9 1;"), 0, 1, 0, 0, 2);
+        c.way(Check.with("step 0 0;step 0 1;step 0 0;walker 2 0 9 1;"), 0, 1, 0, 0, 2);
         // eight free ones against seven, one of which asks 1
-        way(Check.with("step 0 0;step 0 0;step 0 1;step 0 1;".repeat(4) + "step 0 0;step 0 0;walker 3 0 9 1;"), 0, 1, 0,
+        c.way(Check.with("step 0 0;step 0 0;step 0 1;step 0 1;".repeat(4) + "step 0 0;step 0 0;walker 3 0 9 1;"), 0, 1, 0,
                 1, 4, 5, 8, 9, 12, 13, 16);
-        way(Check.with("step 0 20;step 0 19;walker 2 0 99 1;"), 0, 1, 19, 1);
+        c.way(Check.with("step 0 20;step 0 19;walker 2 0 99 1;"), 0, 1, 19, 1);
     }
 
     private static void treadsFewest() {
         c.says("of several that which treads fewest");
-        way(Check.with("step 0 0;step 0 0;step 0 0;walker 2 0 9 1;"), 0, 1, 0, 1);
-        way(Check.with("step 0 1;step 0 2;step 0 1;walker 2 0 9 1;"), 0, 1, 2, 1);
-        way(Check.with("step 0 0;".repeat(5) + "walker 3 0 9 1;"), 0, 1, 0, 2);
+        c.way(Check.with("step 0 0;step 0 0;step 0 0;walker 2 0 9 1;"), 0, 1, 0, 1);
+        c.way(Check.with("step 0 1;step 0 2;step 0 1;walker 2 0 9 1;"), 0, 1, 2, 1);
+        c.way(Check.with("step 0 0;".repeat(5) + "walker 3 0 9 1;"), 0, 1, 0, 2);
     }
 
     private static void firstBySteps() {
         c.says("of several the first by STEPS");
-        way(Check.with("step 0 1;step 0 1;walker 2 0 9 1;"), 0, 1, 1, 0);
-        way(Check.with("step 0 1;step 0 1;step 0 1;step 0 1;walker 2 0 9 1;"), 0, 1, 2, 0, 2);
+        c.way(Check.with("step 0 1;step 0 1;walker 2 0 9 1;"), 0, 1, 1, 0);
+        c.way(Check.with("step 0 1;step 0 1;step 0 1;step 0 1;walker 2 0 9 1;"), 0, 1, 2, 0, 2);
         // 0 3, 1 3, 1 4, 2 3, 2 4, 2 5 are all alike
-        way(Check.with("step 0 1;".repeat(6) + "walker 3 0 9 1;"), 0, 1, 2, 0, 3);
+        c.way(Check.with("step 0 1;".repeat(6) + "walker 3 0 9 1;"), 0, 1, 2, 0, 3);
         // 1 and 2 are one tread each and alike; 0 alone does not reach above
-        way(Check.with("step 0 2;step 0 1;step 0 1;step 0 1;walker 3 0 9 1;"), 0, 1, 1, 1);
+        c.way(Check.with("step 0 2;step 0 1;step 0 1;step 0 1;walker 3 0 9 1;"), 0, 1, 1, 1);
         // 1 3 and 2 3 are alike, all others ask more
-        way(Check.with("step 0 2;step 0 1;step 0 1;step 0 1;step 0 2;step 0 2;walker 3 0 9 1;"), 0, 1, 2, 1, 3);
+        c.way(Check.with("step 0 2;step 0 1;step 0 1;step 0 1;step 0 2;step 0 2;walker 3 0 9 1;"), 0, 1, 2, 1, 3);
     }
 
     private static void noMoreThanWorth() {
@@ -151,19 +141,20 @@ public final class StairsEdgesTest {
     private static void notUp() {
         c.says("he is NOT UP, if there is none, or it COSTS more");
         StairTolls x = Check.with("step 0 9;step 1 9;walker 1 0 17 3;");
-        way(x, 0, 0, 18, 0, 1);
+        c.way(x, 0, 0, 18, 0, 1);
         c.due("he pays nobody", x.takes(0), 0);
         x.crack(1, 1);
-        way(x, 0, 0, NONE);
+        c.way(x, 0, 0, NONE);
         c.due("he pays nobody", x.takes(0), 0);
         x.crack(1, 0);
         x.price(1, 8);
-        way(x, 0, 1, 17, 0, 1);
+        c.way(x, 0, 1, 17, 0, 1);
         c.due("he pays", x.takes(0), 27);
     }
 
     private static void takenFromFolk() {
-        c.says("what his STEPS on THE WAY ASK, times (1 and LOAD), times FOLK");
+        c.says("An OWNER TAKES from all FOLK of all WALKERS who go: what his STEPS on THE WAY ASK, times (1 and LOAD),"
+                + " times FOLK.");
         StairTolls x = Check.with(FULL + "walker 3 0 120 20;walker 3 0 120 20;walker 3 0 120 20;walker 3 0 119 20;"
                 + "walker 3 0 120 20;walker 3 0 120 20;");
         c.due("five of six go", x.takes(0), 5 * 120 * 20);
@@ -189,6 +180,29 @@ public final class StairsEdgesTest {
             }
             c.due("no more", x.undo(), STATE);
             c.due("back to", x.step(0, 1), acts <= 24 ? 20 : (acts - 25) % 20);
+        }
+        forgottenOfEachKind();
+    }
+
+    /** Of 26 acts of all kinds on three steps the first two are forgotten: step 0 asks 5, step 1 is sold. */
+    private static void forgottenOfEachKind() {
+        StairTolls x = Check.with("step 0 1;step 1 2;step 2 3;");
+        x.price(0, 5);
+        x.sell(1, 4);
+        for (int i = 0; i < 6; i++) {
+            x.crack(2, 1 - i % 2);
+            x.price(1, 10 + i);
+            x.sell(0, 1 + i % 4);
+            x.price(2, 6 + i);
+        }
+        for (int left = 23; left >= 0; left--) {
+            c.due("undo", x.undo(), left);
+        }
+        int[][] due = {{0, 5, 0}, {4, 2, 0}, {2, 3, 0}};
+        for (int s = 0; s < 3; s++) {
+            for (int what = 0; what < 3; what++) {
+                c.due("step(" + s + ", " + what + ")", x.step(s, what), due[s][what]);
+            }
         }
     }
 
@@ -332,8 +346,8 @@ public final class StairsEdgesTest {
         c.says("THE WAY COSTS (k = -2; NONE: there is none), how many STEPS he treads (-1), the k-th (NONE: not so"
                 + " many); -3: whether he goes (1, 0). BAD: k below -3, too.");
         StairTolls x = Check.with("step 0 3;step 1 4;walker 1 1 13 1;walker 3 0 0 1;");
-        way(x, 0, 0, 14, 0, 1);
-        way(x, 1, 1, 0);
+        c.way(x, 0, 0, 14, 0, 1);
+        c.way(x, 1, 1, 0);
         for (int k : new int[] {2, 17, 18, 19, 20, 1000, MAX}) {
             c.due("k " + k, x.way(0, k), NONE);
         }
@@ -346,7 +360,7 @@ public final class StairsEdgesTest {
             }
         }
         x.crack(0, 1);
-        way(x, 0, 0, NONE);
+        c.way(x, 0, 0, NONE);
     }
 
     private static void ownersLookedAt() {

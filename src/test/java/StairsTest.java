@@ -197,44 +197,33 @@ public final class StairsTest {
         c.due("step -1", x.step(-1, 0), BAD);
     }
 
-    private static void way(StairTolls x, int walker, int goes, int costs, int... steps) {
-        c.due("goes", x.way(walker, -3), goes);
-        c.due("costs", x.way(walker, -2), costs);
-        c.due("treads", x.way(walker, -1), steps.length);
-        for (int k = 0; k < steps.length; k++) {
-            c.due("step " + k, x.way(walker, k), steps[k]);
-        }
-        c.due("not so many", x.way(walker, steps.length), NONE);
-        c.due("not so many", x.way(walker, Integer.MAX_VALUE), NONE);
-    }
-
     private static void promise14() {
         StairTolls x = Check.with(TWO);
-        way(x, 0, 1, 20, 0, 1);
-        way(x, 1, 1, 4, 0);
+        c.way(x, 0, 1, 20, 0, 1);
+        c.way(x, 1, 1, 4, 0);
         c.due("k -4", x.way(0, -4), BAD);
         c.due("walker 2", x.way(2, 0), BAD);
         c.due("walker -1", x.way(-1, 0), BAD);
         x.price(0, 9);
-        way(x, 0, 1, 30, 0, 1);
-        way(x, 1, 0, 6, 1);
+        c.way(x, 0, 1, 30, 0, 1);
+        c.way(x, 1, 0, 6, 1);
         x.price(0, 10);
-        way(x, 0, 0, 32, 0, 1);
+        c.way(x, 0, 0, 32, 0, 1);
         x.crack(0, 1);
-        way(x, 0, 0, NONE);
-        way(x, 1, 0, 6, 1);
+        c.way(x, 0, 0, NONE);
+        c.way(x, 1, 0, 6, 1);
         x.crack(1, 1);
-        way(x, 1, 0, NONE);
+        c.way(x, 1, 0, NONE);
     }
 
     private static void firstOfWays() {
         // cost ahead of treads: two free steps against one that asks 1
-        way(Check.with("step 0 0;step 0 1;step 0 0;walker 2 0 9 1;"), 0, 1, 0, 0, 2);
+        c.way(Check.with("step 0 0;step 0 1;step 0 0;walker 2 0 9 1;"), 0, 1, 0, 0, 2);
         // treads ahead of order: 0, 1, 2 all free, 1 alone is fewest
-        way(Check.with("step 0 0;step 0 0;step 0 0;walker 2 0 9 1;"), 0, 1, 0, 1);
+        c.way(Check.with("step 0 0;step 0 0;step 0 0;walker 2 0 9 1;"), 0, 1, 0, 1);
         // order: 0 2, 1 2, 1 3 are alike
-        way(Check.with("step 0 1;step 0 1;step 0 1;step 0 1;walker 2 0 9 1;"), 0, 1, 2, 0, 2);
-        way(Check.with("step 0 7;step 0 1;walker 3 0 0 1;"), 0, 1, 0);
+        c.way(Check.with("step 0 1;step 0 1;step 0 1;step 0 1;walker 2 0 9 1;"), 0, 1, 2, 0, 2);
+        c.way(Check.with("step 0 7;step 0 1;walker 3 0 0 1;"), 0, 1, 0);
     }
 
     private static void promise15() {

@@ -70,6 +70,13 @@ public final class TextsEdgesTest {
         for (char other : new char[] {'`', '{', 'A', 'P', 'Z', '_', 233, 0, 255}) {
             wrong("step" + other + " 0 0;", 4, 1);
         }
+        // as long as the words, but for one letter the same
+        for (String name : new String[] {"atep", "stap", "stop", "stez", "abcd"}) {
+            wrong(name + " 0 0;", 0, 1);
+        }
+        for (String name : new String[] {"talker", "wacker", "walkes", "abcdef"}) {
+            wrong("step 0 0;" + name + " 1 0 0 1;", 9, 1);
+        }
         wrong("Step 0 0;", 0, 1);
         wrong("STEP 0 0;", 0, 1);
         wrong("ste 0 0;", 0, 1);
